@@ -1,10 +1,5 @@
 /** The document's promises one by one, with answers worked out by hand. */
-public final class PromisesTest {
-    private static final int BAD = -200, NOT = -201, FULL = -202;
-    private static final int NULL = -11, INDEX = -12, CAST = -13, STORE = -14, SIZE = -15;
-    private static final int LEAST = Integer.MIN_VALUE, GREATEST = Integer.MAX_VALUE;
-    private static int wrong = 0;
-
+public final class PromisesTest extends Checks {
     public static void main(String[] args) {
         newObject();
         board();
@@ -33,32 +28,7 @@ public final class PromisesTest {
         write();
         count();
         digest();
-        System.out.println(wrong == 0 ? "all promises hold" : wrong + " answers are not as due");
-        if (wrong != 0) {
-            System.exit(1);
-        }
-    }
-
-    private static void due(String what, long got, long want) {
-        if (got != want) {
-            wrong++;
-            System.out.println(what + " answered " + got + ", due is " + want);
-        }
-    }
-
-    private static DropRows on(int w, int h, int k, boolean joined) {
-        DropRows x = new DropRows();
-        x.board(w, h, k, joined);
-        return x;
-    }
-
-    private static DropRows playing(DropRows x, int... columns) {
-        for (int column : columns) {
-            if (x.drop(column) < 0) {
-                due("a drop that a test needs, into " + column, BAD, 0);
-            }
-        }
-        return x;
+        finish();
     }
 
     // ---- promises 1 and 2
