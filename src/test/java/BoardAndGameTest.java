@@ -1,4 +1,6 @@
+import java.util.ArrayList;
 import java.util.Arrays;
+import java.util.List;
 import java.util.function.Consumer;
 
 /** Promises 1 to 8: a test for each sentence, at the edges that it names. */
@@ -8,6 +10,7 @@ public final class BoardAndGameTest extends Checks {
         newMoves();
         newSheets();
         boardToldAnew();
+        boardBehindAnyOther();
         boardHasNoMoves();
         boardRows();
         boardBad();
@@ -108,6 +111,45 @@ public final class BoardAndGameTest extends Checks {
         due("two in a row, where three win", playing(x, 1, 0, 2).game(2), 2);
         x.board(3, 1, 2, false);
         due("two in a row, where two win", playing(x, 1, 0, 2).game(2), 1);
+    }
+
+    /** A game on each board, behind each other board, ends as on an object that was told no other. */
+    private static void boardBehindAnyOther() {
+        List<int[]> boards = new ArrayList<>();
+        for (int squares = 1; squares <= 16; squares++) {
+            for (int w = 1; w <= 7 && w <= squares; w++) {
+                for (int k = 2; k <= 4 && squares % w == 0 && squares / w <= 6; k++) {
+                    boards.add(new int[] {w, squares / w, k, 0});
+                    boards.add(new int[] {w, squares / w, k, 1});
+                }
+            }
+        }
+        for (int i = 0; i < boards.size(); i++) {
+            for (int j = 0; j < boards.size(); j++) {
+                DropRows x = new DropRows();
+                tell(x, boards.get(i));
+                long got = endOfAGame(x, boards.get(j), i + 1);
+                String name = Arrays.toString(boards.get(j)) + " behind " + Arrays.toString(boards.get(i));
+                due(name, got, endOfAGame(new DropRows(), boards.get(j), i + 1));
+            }
+        }
+    }
+
+    private static int tell(DropRows x, int[] board) {
+        return x.board(board[0], board[1], board[2], board[3] == 1);
+    }
+
+    // some game of the board, the same for the same seed, and what can be asked at its end as one number
+    private static long endOfAGame(DropRows x, int[] board, int seed) {
+        long told = tell(x, board);
+        for (int i = 0, drawn = seed; i < 40; i++) {
+            drawn = drawn * 1103515245 + 12345;
+            x.drop((drawn >>> 16) % board[0]);
+        }
+        for (int i = 0; i < 4; i++) {
+            told = told * 31 + x.won(i);
+        }
+        return (told * 31 + x.threats(0)) * 31 + x.threats(1) + x.digest();
     }
 
     private static void boardHasNoMoves() {
@@ -394,36 +436,30 @@ public final class BoardAndGameTest extends Checks {
 
     // ---- promise 8
 
-    private static void wonSquares(String what, DropRows x, int... squares) {
-        for (int i = 0; i < squares.length; i++) {
-            due(what + ": won(" + i + ")", x.won(i), squares[i]);
-        }
-        due(what + ": won(" + squares.length + ")", x.won(squares.length), BAD);
-    }
-
     private static void wonSquare() {
         under(8, "The i-th SQUARE, the least first, of the ROW that was won");
-        wonSquares("two", playing(on(3, 1, 2, false), 1, 0, 2), 1, 2);
-        wonSquares("three of side 1", playing(on(3, 3, 3, false), 1, 0, 1, 0, 2, 0), 0, 3, 6);
-        wonSquares("four up", playing(on(2, 4, 4, false), 1, 0, 1, 0, 1, 0, 1), 1, 3, 5, 7);
-        wonSquares("back and up", playing(on(2, 2, 2, false), 1, 0, 0), 1, 2);
-        wonSquares("around", playing(on(5, 2, 3, true), 4, 4, 3, 3, 0), 0, 3, 4);
-        wonSquares("around, of the upper squares", playing(on(7, 2, 3, true), 5, 6, 5, 0, 6, 3, 0), 7, 12, 13);
+        each("two: won", playing(on(3, 1, 2, false), 1, 0, 2)::won, 1, 2);
+        each("three of side 1: won", playing(on(3, 3, 3, false), 1, 0, 1, 0, 2, 0)::won, 0, 3, 6);
+        each("four up: won", playing(on(2, 4, 4, false), 1, 0, 1, 0, 1, 0, 1)::won, 1, 3, 5, 7);
+        each("back and up: won", playing(on(2, 2, 2, false), 1, 0, 0)::won, 1, 2);
+        each("around: won", playing(on(5, 2, 3, true), 4, 4, 3, 3, 0)::won, 0, 3, 4);
+        each("around, of the upper squares: won", playing(on(7, 2, 3, true), 5, 6, 5, 0, 6, 3, 0)::won, 7, 12, 13);
     }
 
     private static void wonOfSeveral() {
         under(8, "(of several: at the first place at which their SQUARES, the least first, part, the lesser one).");
-        wonSquares("012 and 123", playing(on(4, 2, 3, false), 0, 0, 1, 1, 3, 3, 2), 0, 1, 2);
-        wonSquares("036 and 246", playing(on(3, 3, 3, false), 0, 1, 1, 1, 2, 2, 0, 2, 0), 0, 3, 6);
-        wonSquares("048 and 678", playing(on(3, 3, 3, false), 0, 0, 0, 1, 1, 2, 1, 2, 2), 0, 4, 8);
-        wonSquares("1 2 3 and 1 6 11", playing(on(4, 3, 3, false), 2, 0, 2, 0, 3, 3, 3, 2, 1), 1, 2, 3);
-        wonSquares("2 5 8 and 2 7 8", playing(on(4, 3, 3, true), 0, 0, 2, 1, 1, 3, 3, 2, 0), 2, 5, 8);
-        wonSquares("024 and 034", playing(on(2, 6, 3, true), 0, 1, 1, 1, 0, 1, 0), 0, 2, 4);
-        wonSquares("125 and 135", playing(on(2, 6, 3, true), 1, 0, 0, 0, 1, 0, 1), 1, 2, 5);
-        wonSquares("0 1 2 and 0 1 4", playing(on(5, 2, 3, true), 0, 0, 2, 2, 4, 3, 1), 0, 1, 2);
-        wonSquares("016, 056 and 456", playing(on(7, 2, 3, true), 0, 0, 1, 1, 4, 2, 5, 3, 6), 0, 1, 6);
-        wonSquares("0126 and 0156", playing(on(7, 2, 4, true), 0, 0, 1, 1, 2, 2, 5, 3, 6), 0, 1, 2, 6);
-        wonSquares("0123, 0126 and 0156", playing(on(7, 2, 4, true), 0, 0, 2, 2, 3, 3, 5, 4, 6, 4, 1), 0, 1, 2, 3);
+        each("012 and 123: won", playing(on(4, 2, 3, false), 0, 0, 1, 1, 3, 3, 2)::won, 0, 1, 2);
+        each("036 and 246: won", playing(on(3, 3, 3, false), 0, 1, 1, 1, 2, 2, 0, 2, 0)::won, 0, 3, 6);
+        each("048 and 678: won", playing(on(3, 3, 3, false), 0, 0, 0, 1, 1, 2, 1, 2, 2)::won, 0, 4, 8);
+        each("0 5 10 and 2 5 8: won", playing(on(4, 3, 3, false), 0, 0, 0, 1, 2, 2, 2, 3, 1)::won, 0, 5, 10);
+        each("1 2 3 and 1 6 11: won", playing(on(4, 3, 3, false), 2, 0, 2, 0, 3, 3, 3, 2, 1)::won, 1, 2, 3);
+        each("2 5 8 and 2 7 8: won", playing(on(4, 3, 3, true), 0, 0, 2, 1, 1, 3, 3, 2, 0)::won, 2, 5, 8);
+        each("024 and 034: won", playing(on(2, 6, 3, true), 0, 1, 1, 1, 0, 1, 0)::won, 0, 2, 4);
+        each("125 and 135: won", playing(on(2, 6, 3, true), 1, 0, 0, 0, 1, 0, 1)::won, 1, 2, 5);
+        each("0 1 2 and 0 1 4: won", playing(on(5, 2, 3, true), 0, 0, 2, 2, 4, 3, 1)::won, 0, 1, 2);
+        each("016, 056 and 456: won", playing(on(7, 2, 3, true), 0, 0, 1, 1, 4, 2, 5, 3, 6)::won, 0, 1, 6);
+        each("0126 and 0156: won", playing(on(7, 2, 4, true), 0, 0, 1, 1, 2, 2, 5, 3, 6)::won, 0, 1, 2, 6);
+        each("0123, 0126 and 0156: won", playing(on(7, 2, 4, true), 0, 0, 2, 2, 3, 3, 5, 4, 6, 4, 1)::won, 0, 1, 2, 3);
     }
 
     private static void wonBad() {

@@ -1,4 +1,5 @@
 import java.util.function.Consumer;
+import java.util.function.IntUnaryOperator;
 import java.util.function.ToIntFunction;
 
 /**
@@ -54,6 +55,14 @@ abstract class Checks {
         if (got != want) {
             tellWrong(call + " answered " + got + ", due is " + want);
         }
+    }
+
+    /** The answers to 0, 1 and so on; to the number behind the last it is BAD. */
+    static void each(String call, IntUnaryOperator asked, int... want) {
+        for (int i = 0; i < want.length; i++) {
+            due(call + " " + i, asked.applyAsInt(i), want[i]);
+        }
+        due(call + " " + want.length, asked.applyAsInt(want.length), BAD);
     }
 
     private static void tellWrong(String what) {

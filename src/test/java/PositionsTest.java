@@ -19,20 +19,13 @@ public final class PositionsTest extends Checks {
 
     // ---- promise 14
 
-    private static void come(String what, DropRows x, int... all) {
-        for (int n = 0; n < all.length; n++) {
-            due(what + ": positions(" + n + ")", x.positions(n), all[n]);
-        }
-        due(what + ": positions(" + all.length + ")", x.positions(all.length), BAD);
-    }
-
     private static void positionsCome() {
         under(14, "How many POSITIONS can COME with n men (0 .. W times H).");
-        come("one square", on(1, 1, 2, true), 1, 1);
-        come("one column", on(1, 6, 2, false), 1, 1, 1, 1, 1, 1, 1);
-        come("one row, and some are won", on(3, 1, 2, false), 1, 3, 6, 3);
-        come("all are over behind three", on(2, 2, 2, false), 1, 2, 4, 6, 0);
-        come("whatever was played", made(game(3, 1, 2, false, 1, 0, 2)), 1, 3, 6, 3);
+        each("one square: positions", on(1, 1, 2, true)::positions, 1, 1);
+        each("one column: positions", on(1, 6, 2, false)::positions, 1, 1, 1, 1, 1, 1, 1);
+        each("one row, and some are won: positions", on(3, 1, 2, false)::positions, 1, 3, 6, 3);
+        each("all are over behind three: positions", on(2, 2, 2, false)::positions, 1, 2, 4, 6, 0);
+        each("whatever was played: positions", made(game(3, 1, 2, false, 1, 0, 2))::positions, 1, 3, 6, 3);
         DropRows four = on(4, 4, 4, false);
         int all = 0;
         for (int n = 0; n <= 16; n++) {
@@ -46,7 +39,7 @@ public final class PositionsTest extends Checks {
             due("positions(" + n + "), a worth was asked ahead", x.positions(n), y.positions(n));
         }
         x.board(3, 1, 2, false);
-        come("a new board", x, 1, 3, 6, 3);
+        each("a new board: positions", x::positions, 1, 3, 6, 3);
     }
 
     private static void positionsBad() {
@@ -62,26 +55,22 @@ public final class PositionsTest extends Checks {
 
     // ---- promise 15
 
-    private static void won(String what, DropRows x, int... all) {
-        for (int n = 0; n < all.length; n++) {
-            due(what + ": wins(" + n + ")", x.wins(n), all[n]);
-        }
-        due(what + ": wins(" + all.length + ")", x.wins(all.length), BAD);
-    }
-
     private static void winsOfThese() {
         under(15, "Of these: how many in which the SIDE that moved last HAS a ROW.");
-        won("no row can be", on(1, 1, 2, true), 0, 0);
-        won("nobody wins in one column", on(1, 6, 2, false), 0, 0, 0, 0, 0, 0, 0);
-        won("with the last square alone", on(3, 1, 2, false), 0, 0, 0, 2);
-        won("all with three", on(2, 2, 2, false), 0, 0, 0, 6, 0);
-        won("whatever was played", made(game(3, 1, 2, false, 1, 0, 2)), 0, 0, 0, 2);
+        each("no row can be: wins", on(1, 1, 2, true)::wins, 0, 0);
+        each("nobody wins in one column: wins", on(1, 6, 2, false)::wins, 0, 0, 0, 0, 0, 0, 0);
+        each("with the last square alone: wins", on(3, 1, 2, false)::wins, 0, 0, 0, 2);
+        each("all with three: wins", on(2, 2, 2, false)::wins, 0, 0, 0, 6, 0);
+        each("whatever was played: wins", made(game(3, 1, 2, false, 1, 0, 2))::wins, 0, 0, 0, 2);
         DropRows x = on(4, 4, 4, false);
         due("wins(6), four in a row need seven men", x.wins(6), 0);
         // a column and three men in the three others: 4 times 10; the lowest row and three men on it: 20
         due("wins(7)", x.wins(7), 60);
+        x.board(4, 4, 3, true);
+        // with five: three up and two men in the three others, 4 times 6; three of the lowest row, around too, 4 times 10
+        each("joined: wins", x::wins, 0, 0, 0, 0, 0, 64, 80, 688, 808, 2692, 2096, 2612, 1016, 656, 168, 76, 0);
         x.board(2, 2, 2, false);
-        won("a new board", x, 0, 0, 0, 6, 0);
+        each("a new board: wins", x::wins, 0, 0, 0, 6, 0);
     }
 
     private static void winsBad() {

@@ -322,7 +322,8 @@ public final class SheetsTest extends Checks {
     }
 
     private static void takeMoves() {
-        under(26, "The first n items (0 to 16) of a SHEET are the game's MOVES, one behind the other: how it is then (as game() 2).");
+        under(26, "The first n items (0 to 16) of a SHEET are the game's MOVES, one behind the other: "
+                + "how it is then (as game() 2).");
         for (int form = 0; form < 3; form++) {
             DropRows x = made(game(3, 3, 3, false, 2, 2));
             fill(x, 0, form, 1, 0, 1, 0, 1, 2, 9);
@@ -389,6 +390,12 @@ public final class SheetsTest extends Checks {
         refused("take(2, 16) of one square", one, x -> x.take(2, 16), -101);
         Consumer<DropRows> over = game(3, 1, 2, false, 1, 0, 2).andThen(x -> fill(x, 0, 0, 0, 0));
         refused("take(0, 2), the game was over", over, x -> x.take(0, 2), -101);
+        Consumer<DropRows> taken = game(3, 2, 3, false, 2).andThen(x -> {
+            fill(x, 0, 0, 1, 0, 1);
+            x.take(0, 3);
+            fill(x, 0, 0, 2, 2, 2);
+        });
+        refused("take(0, 3), the game was taken too", taken, x -> x.take(0, 3), -102);
     }
 
     // ---- promise 27

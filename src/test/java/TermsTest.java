@@ -51,7 +51,8 @@ public final class TermsTest extends Checks {
         for (int w = 0; w <= 8; w++) {
             for (int h = 0; h <= 7; h++) {
                 boolean is = w >= 1 && w <= 7 && h >= 1 && h <= 6 && w * h <= 16;
-                due("whether there is a board " + w + " by " + h, new DropRows().board(w, h, 4, false) == BAD ? 0 : 1, is ? 1 : 0);
+                boolean refused = new DropRows().board(w, h, 4, false) == BAD;
+                due("whether there is a board " + w + " by " + h, refused ? 0 : 1, is ? 1 : 0);
             }
         }
         DropRows x = on(3, 5, 4, false);
@@ -212,8 +213,9 @@ public final class TermsTest extends Checks {
     // ---- worth
 
     private static void worth() {
-        term("WORTH of a game that goes on, for the SIDE to move, both playing best (who wins as soon as may be, who loses as late): "
-                + "100 less how many MOVES are still made, if it wins; as many less 100, if it loses; 0: it is drawn.");
+        term("WORTH of a game that goes on, for the SIDE to move, both playing best "
+                + "(who wins as soon as may be, who loses as late): 100 less how many MOVES are still made, "
+                + "if it wins; as many less 100, if it loses; 0: it is drawn.");
         due("wins in one", made(game(3, 1, 2, false, 1, 0)).worth(), 99);
         due("wins in one, though in five too", made(game(4, 4, 3, false, 0, 3, 0, 3)).worth(), 99);
         due("loses in two", made(game(3, 1, 2, false, 1)).worth(), -98);
@@ -244,8 +246,8 @@ public final class TermsTest extends Checks {
     }
 
     private static void worthOfAMove() {
-        term("A MOVE's WORTH: that of the game behind it, for the SIDE that moves: 99, if it wins at once; 0, if it fills the BOARD; "
-                + "else less the WORTH of the game then, and, if that is not 0, nearer to 0 by 1.");
+        term("A MOVE's WORTH: that of the game behind it, for the SIDE that moves: 99, if it wins at once; "
+                + "0, if it fills the BOARD; else less the WORTH of the game then, and, if that is not 0, nearer to 0 by 1.");
         due("wins at once", made(game(3, 1, 2, false, 0, 2)).worthOf(1), 99);
         due("wins at once, and fills the board", made(game(3, 1, 2, false, 1, 0)).worthOf(2), 99);
         due("fills the board", made(game(3, 1, 2, false, 0, 1)).worthOf(2), 0);
@@ -321,7 +323,8 @@ public final class TermsTest extends Checks {
     }
 
     private static void waitingFromWhereItIs() {
-        term("WAITING: the game goes on from where it is, each MOVE into the least column that is not full of the first sort there is:");
+        term("WAITING: the game goes on from where it is, each MOVE into the least column that is not full "
+                + "of the first sort there is:");
         waits("from where it is", game(3, 1, 2, false, 1), 1);
         waits("from the empty board", game(3, 1, 2, false), 0);
         waits("not the greatest column", game(3, 3, 3, false, 0), 1);
@@ -394,8 +397,8 @@ public final class TermsTest extends Checks {
     }
 
     private static void findings() {
-        term("FINDINGS (answers -10 less the number; they change nothing): 1 NULL: the SHEET is LOST; 2 INDEX: there is no such item; "
-                + "3 CAST: it has another FORM; 4 STORE: unlike FORMS; 5 SIZE: below 0.");
+        term("FINDINGS (answers -10 less the number; they change nothing): 1 NULL: the SHEET is LOST; "
+                + "2 INDEX: there is no such item; 3 CAST: it has another FORM; 4 STORE: unlike FORMS; 5 SIZE: below 0.");
         Consumer<DropRows> before = game(3, 2, 3, false, 0, 1, 2).andThen(x -> {
             x.sheet(0, 0, 2);
             x.put(0, 0, 1, 9);
@@ -410,7 +413,8 @@ public final class TermsTest extends Checks {
     }
 
     private static void refusalsInOrder() {
-        term("Refusals, the first that fits: BAD -200 (a number not as told, no such thing), NOT -201, FULL -202 (as told), FINDINGS.");
+        term("Refusals, the first that fits: BAD -200 (a number not as told, no such thing), NOT -201, "
+                + "FULL -202 (as told), FINDINGS.");
         refused("drop(), bad and over", WON_BY_0, x -> x.drop(2), -200);
         refused("drop(), over", WON_BY_0, x -> x.drop(1), -201);
         Consumer<DropRows> twelve = x -> {

@@ -32,6 +32,7 @@ public final class ThreatsTest extends Checks {
         due("threats(0), no row can be", made(game(1, 1, 2, true)).threats(0), 0);
         due("threats(0), all round one man", made(game(5, 3, 2, false, 2)).threats(0), 5);
         due("threats(0), who has won would have a row with any", made(game(3, 2, 2, false, 0, 2, 1)).threats(0), 3);
+        due("threats(0), one that is beside none of its men too", made(game(5, 1, 2, false, 0, 2, 1)).threats(0), 2);
         due("threats(1), who has lost", made(game(3, 2, 2, false, 0, 2, 1)).threats(1), 2);
     }
 
@@ -44,10 +45,7 @@ public final class ThreatsTest extends Checks {
     }
 
     private static void squares(String what, DropRows x, int side, int... squares) {
-        for (int k = 0; k < squares.length; k++) {
-            due(what + ": threat(" + side + ", " + k + ")", x.threat(side, k), squares[k]);
-        }
-        due(what + ": threat(" + side + ", " + squares.length + ")", x.threat(side, squares.length), BAD);
+        each(what + ": threat of side " + side, k -> x.threat(side, k), squares);
     }
 
     private static void threatSquares() {
@@ -55,6 +53,7 @@ public final class ThreatsTest extends Checks {
         squares("two of side 1", made(TWO_OF_SIDE_1), 1, 6, 8);
         squares("none of side 0", made(TWO_OF_SIDE_1), 0);
         squares("the least square", made(game(3, 1, 2, false, 1)), 0, 0, 2);
+        squares("the least square alone", made(game(3, 1, 2, false, 1, 2)), 0, 0);
         squares("the greatest square", made(game(4, 4, 3, false, 3, 3, 0, 3)), 1, 15);
         squares("a square of both, side 0", made(game(3, 1, 2, false, 0, 2)), 0, 1);
         squares("a square of both, side 1", made(game(3, 1, 2, false, 0, 2)), 1, 1);
@@ -90,6 +89,13 @@ public final class ThreatsTest extends Checks {
         due("waiting(), sixteen moves, drawn", on(4, 4, 4, true).waiting(), 0);
         due("waiting(), one square", on(1, 1, 2, true).waiting(), 0);
         due("waiting(), one square of sixteen", made(game(4, 4, 4, false, Arrays.copyOf(SIXTEEN, 15))).waiting(), 0);
+        DropRows x = on(3, 1, 2, false);
+        due("waiting()", x.waiting(), 0);
+        due("waiting() behind a move", playing(x, 1).waiting(), 1);
+        x.back(1);
+        due("waiting(), the move is taken back", x.waiting(), 0);
+        x.board(2, 3, 2, false);
+        due("waiting() of a new board", x.waiting(), 1);
     }
 
     private static void waitingStays() {
@@ -97,6 +103,12 @@ public final class ThreatsTest extends Checks {
         stays("waiting()", game(3, 1, 2, false, 1), DropRows::waiting, 1, 0);
         stays("waiting() at first", x -> { }, DropRows::waiting, -1, 0);
         stays("waiting(), one square of sixteen", game(4, 4, 4, false, Arrays.copyOf(SIXTEEN, 15)), DropRows::waiting, 0, 0);
+        Consumer<DropRows> taken = game(3, 1, 2, false, 0).andThen(x -> {
+            x.sheet(0, 0, 1);
+            x.put(0, 0, 0, 1);
+            x.take(0, 1);
+        });
+        stays("waiting() of a game that was taken from a sheet", taken, DropRows::waiting, 1, 0);
         DropRows x = made(game(3, 3, 3, false, 1, 0, 1, 0, 2));
         due("waiting()", x.waiting(), -1);
         due("waiting() again", x.waiting(), -1);
